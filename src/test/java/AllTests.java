@@ -6,6 +6,12 @@ public final class AllTests {
     public static void main(String[] args) {
         NewHallTests.run();
         DanceTests.run();
+        DancerTests.run();
+        WinderTests.run();
+        BeatTests.run();
+        AheadTests.run();
+        FaceTests.run();
+        RandomTests.run();
         if (!Check.summary()) {
             System.exit(1);
         }
