@@ -775,7 +775,7 @@ public final class WaltzHall {
             aim(leader, figure);
             Dancer inLeadersWay = whoIsInTheWayOf(leader);
             Dancer inFollowersWay = follower == null ? null : whoIsInTheWayOf(follower);
-            boolean offFloor = leader.aimsOffFloor() || follower != null && follower.aimsOffFloor();
+            boolean offFloor = leader.aimsOffFloor() || (follower != null && follower.aimsOffFloor());
             if (offFloor || inLeadersWay != null || inFollowersWay != null) {
                 // The goals of both are never one tile, so nobody is in the way twice.
                 return bump(leader) + bump(follower) + bump(inLeadersWay) + bump(inFollowersWay);

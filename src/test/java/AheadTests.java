@@ -63,6 +63,14 @@ final class AheadTests {
             // dizzy for all three beats, by the bump of 0, it spends nothing
             Check.same("foresee", hall.foresee(1, 3, 3), 121);
         });
+        Check.test("promise 19: who dances another dance between two looks", () -> {
+            WaltzHall hall = Halls.solo(7, 7, 1, 1, "f");
+            Check.same("foresee", hall.foresee(0, 3, 0), 10);
+            hall.dance(0, 3);
+            Check.same("foresee", hall.foresee(0, 3, 0), 7);
+            Halls.teach(hall, 3, "wb");
+            Check.same("foresee", hall.foresee(0, 4, 0), 5);
+        });
         Check.test("promise 19: no such dancer or kind, then no such beats", () -> {
             WaltzHall hall = new WaltzHall();
             Check.index(hall, () -> hall.foresee(0, 1, 0));

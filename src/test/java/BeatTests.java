@@ -329,8 +329,7 @@ final class BeatTests {
             Halls.still(ahead, 9, 7);
             Check.same("pass", ahead.pass(1), 3);
         });
-        Check.test("promise 17: the one off the floor, the other one at somebody", () -> {
-            // who leads turns no way: u of a follower at the edge, then t at somebody
+        Check.test("promise 17: who follows would go round off the floor, or to where somebody stands", () -> {
             WaltzHall hall = Halls.couple(0, 7, 0, 0, 6, "uwt");
             Halls.still(hall, 1, 7);
             Check.same("pass", hall.pass(1), 2);
@@ -372,7 +371,7 @@ final class BeatTests {
             Halls.tells(hall, 1, Halls.FIGURES, 0);
             Halls.tells(hall, 2, Halls.FIGURES, 0);
         });
-        Check.test("promise 17: a couple through one another and no further", () -> {
+        Check.test("promise 17: who goes ahead in a couple is not in the way of the other one", () -> {
             WaltzHall hall = Halls.couple(7, 7, 1, 8, 7, "fb");
             Check.same("pass", hall.pass(2), 0);
             Halls.stands(hall, 0, 7, 7, 1);
@@ -449,12 +448,14 @@ final class BeatTests {
             hall.pass(1);
             // 0 and 1 go up, 2 has too little, 3 bumps
             counts(hall, 1, 4, 1, 2, 1, 293, 2, 1, 1);
-            hall.pass(2);
+            hall.pass(1);
+            counts(hall, 2, 4, 1, 2, 1, 284, 4, 1, 1);
+            hall.pass(1);
             counts(hall, 3, 4, 1, 2, 0, 275, 6, 1, 1);
             hall.wind(2, 1);
             hall.wind(0, -200);
             hall.wind(1, -200);
-            // 3 has the cost 3, which is not less
+            // 2 has the spring 3 now, which is not less than its cost
             counts(hall, 3, 4, 1, 2, 0, 103, 6, 1, 2);
             hall.part(1);
             counts(hall, 3, 4, 0, 2, 0, 103, 6, 1, 2);

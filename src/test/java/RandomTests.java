@@ -195,18 +195,22 @@ final class RandomTests {
         }
     }
 
-    private static WaltzHall replay(int seed) {
+    private static WaltzHall replay(int seed, boolean looking) {
         WaltzHall hall = new WaltzHall();
         Draw draw = new Draw(seed);
         for (int i = 0; i < CALLS; i++) {
             call(hall, draw, false);
+            if (looking) {
+                hall.firstToStop(1 + i % 9);
+            }
         }
         return hall;
     }
 
     private static void looksAhead(int seed) {
-        WaltzHall hall = replay(seed);
-        WaltzHall then = replay(seed);
+        // Looks in between must leave nothing behind that the later looks would see.
+        WaltzHall hall = replay(seed, true);
+        WaltzHall then = replay(seed, false);
         long before = hall.digest();
         Check.same("digest of the same calls", then.digest(), before);
         int dancers = hall.count(1);
