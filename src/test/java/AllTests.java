@@ -11,6 +11,12 @@ public final class AllTests {
         BeatTests.run();
         AheadTests.run();
         FaceTests.run();
+        EdgeTermsTests.run();
+        EdgeDanceTests.run();
+        EdgeDancerTests.run();
+        EdgeWinderTests.run();
+        EdgeBeatTests.run();
+        EdgeAheadTests.run();
         RandomTests.run();
         if (!Check.summary()) {
             System.exit(1);

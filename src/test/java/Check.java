@@ -52,17 +52,21 @@ final class Check {
     /** The call has to throw just this exception, by a throw of the class itself, and to change nothing. */
     static void refuses(WaltzHall hall, Class<? extends RuntimeException> due, Body call) {
         long before = hall.digest();
+        throwsJust("a call", due, call);
+        same("digest behind a refused call", hall.digest(), before);
+    }
+
+    static void throwsJust(String what, Class<? extends RuntimeException> due, Body call) {
         try {
             call.run();
-            wrong("threw nothing, due is " + due.getName());
+            wrong(what + " threw nothing, due is " + due.getName());
         } catch (RuntimeException e) {
             if (e.getClass() != due) {
-                wrong("threw " + e + ", due is " + due.getName());
+                wrong(what + " threw " + e + ", due is " + due.getName());
             } else if (!isThrownByTheClass(e)) {
-                wrong("the machine or the library threw " + e);
+                wrong(what + ": the machine or the library threw " + e);
             }
         }
-        same("digest behind a refused call", hall.digest(), before);
     }
 
     static boolean isThrownByTheClass(RuntimeException e) {

@@ -1,254 +1,219 @@
-/** Runs of calls that a counter draws, always the same ones. */
-final class RandomTests {
-    private static final int RUNS = 300;
-    private static final int CALLS = 120;
+import java.util.function.Supplier;
 
-    private RandomTests() {
+/** Runs of calls that a counter draws, always the same ones; each answer is compared with the model's. */
+final class RandomTests {
+    private static final int RUNS = 400;
+    private static final int MOST_CALLS = 512;
+    private static final int FIRST_CALLS = 120;
+
+    private final WaltzHall hall = new WaltzHall();
+    private final Model model = new Model();
+    private final boolean wild;
+    private long state;
+    private int calls;
+    private int refused;
+
+    private RandomTests(long seed, boolean wild) {
+        state = seed * 7919L + 12345L;
+        this.wild = wild;
     }
 
     static void run() {
-        Check.test("calls with any numbers throw what the document names, and then change nothing", () -> {
+        Check.test("drawn calls answer as the model does", () -> {
             for (int seed = 0; seed < RUNS; seed++) {
-                playWild(seed);
+                new RandomTests(seed, false).play();
             }
         });
-        Check.test("the floor stays in order", () -> {
+        Check.test("drawn calls with any numbers answer as the model does", () -> {
             for (int seed = 0; seed < RUNS; seed++) {
-                WaltzHall hall = new WaltzHall();
-                Draw draw = new Draw(seed);
-                for (int i = 0; i < CALLS; i++) {
-                    call(hall, draw, false);
-                    inOrder(hall);
-                }
+                RandomTests run = new RandomTests(-1 - seed, true);
+                run.play();
+                Check.isTrue("some calls are refused", run.refused > 0);
             }
         });
-        Check.test("looking ahead tells what comes, and changes nothing", () -> {
+        Check.test("what is told of times to come is what passing them brings", () -> {
             for (int seed = 0; seed < RUNS; seed++) {
-                looksAhead(seed);
+                looksAhead(seed, 1 + seed % 40);
             }
         });
     }
 
-    private static final class Draw {
-        private long state;
+    private int below(int bound) {
+        state = state * 6364136223846793005L + 1442695040888963407L;
+        return (int) ((state >>> 33) % bound);
+    }
 
-        Draw(long seed) {
-            state = seed * 7919L + 12345L;
+    /** Most often first to last, else a little beside them, or far away. */
+    private int near(int first, int last) {
+        int kind = below(wild ? 12 : 40);
+        if (wild && kind == 0) {
+            return new int[] {Integer.MIN_VALUE, Integer.MAX_VALUE, -1, 1000, -1000}[below(5)];
         }
+        return kind == 1 ? last + 1 : kind == 2 ? first - 1 : first + below(last - first + 1);
+    }
 
-        int below(int bound) {
-            state = state * 6364136223846793005L + 1442695040888963407L;
-            return (int) ((state >>> 33) % bound);
-        }
+    private int someDancer() {
+        return near(0, Math.max(0, model.count(1) - 1));
+    }
 
-        /** Most often 0 to the bound, else a little beside it, or far away. */
-        int near(int bound, boolean wild) {
-            int kind = below(wild ? 12 : 40);
-            if (wild && kind == 0) {
-                return new int[] {Integer.MIN_VALUE, Integer.MAX_VALUE, -1, 1000, -1000}[below(5)];
+    private void play() {
+        while (calls < MOST_CALLS - 20) {
+            if (calls < FIRST_CALLS || below(3) == 0) {
+                change();
+            } else {
+                ask();
             }
-            return kind == 1 ? bound + 1 : kind == 2 ? -1 : below(bound + 1);
+            long due = model.digest();
+            same("digest()", hall::digest, () -> due);
         }
     }
 
-    private static String dance(Draw draw) {
-        StringBuilder text = new StringBuilder();
-        int length = 1 + draw.below(12);
-        for (int i = 0; i < length; i++) {
-            text.append("ffffblrrttuswz".charAt(draw.below(draw.below(6) == 0 ? 14 : 13)));
-        }
-        return text.toString();
-    }
-
-    /** One call of those that change something; answers whether it was refused. */
-    private static boolean call(WaltzHall hall, Draw draw, boolean wild) {
+    /** An answer or the name of an exception that the class itself threw. */
+    private static Object outcome(Supplier<Object> call) {
         try {
-            change(hall, draw, wild);
-            return false;
-        } catch (IllegalStateException | IllegalArgumentException | IndexOutOfBoundsException e) {
-            if (!Check.isThrownByTheClass(e) || !isPlain(e)) {
-                Check.wrong("the machine or the library threw " + e);
-            }
-            return true;
+            return call.get();
+        } catch (RuntimeException e) {
+            return e.getClass().getName();
         }
     }
 
-    private static boolean isPlain(RuntimeException e) {
-        return e.getClass() == IllegalStateException.class || e.getClass() == IllegalArgumentException.class
-                || e.getClass() == IndexOutOfBoundsException.class;
+    private void same(String call, Supplier<Object> ofHall, Supplier<Object> ofModel) {
+        calls++;
+        Object due = outcome(ofModel);
+        Object got = outcome(() -> {
+            try {
+                return ofHall.get();
+            } catch (RuntimeException e) {
+                Check.isTrue(e + " is thrown by the class itself", Check.isThrownByTheClass(e));
+                refused++;
+                throw e;
+            }
+        });
+        if (!got.equals(due)) {
+            Check.wrong("call " + calls + ", " + call + ", answered " + got + ", due is " + due);
+        }
     }
 
-    private static void change(WaltzHall hall, Draw draw, boolean wild) {
-        switch (draw.below(14)) {
+    private void change() {
+        int a = someDancer();
+        int b = someDancer();
+        int dance = near(0, 7);
+        int x = near(0, below(3) == 0 ? 15 : 5);
+        int y = near(below(3) == 0 ? 0 : 10, 15);
+        int small = near(0, 3);
+        switch (below(13)) {
             case 0:
             case 1:
-                hall.come(draw.near(5, wild), draw.near(5, wild), draw.near(3, wild), draw.near(9, wild));
+                int cost = near(1, 9);
+                same("come", () -> hall.come(x, y, small, cost), () -> model.come(x, y, small, cost));
                 break;
             case 2:
-                hall.dance(draw.near(7, wild), draw.near(7, wild));
+                same("dance", () -> hall.dance(a, dance), () -> model.dance(a, dance));
                 break;
             case 3:
             case 4:
+                same("pair", () -> hall.pair(a, b), () -> model.pair(a, b));
+                break;
             case 5:
-                hall.pair(draw.near(7, wild), draw.near(7, wild));
+                same("part", () -> hall.part(a), () -> model.part(a));
                 break;
             case 6:
-                hall.part(draw.near(7, wild));
-                break;
             case 7:
-                hall.wind(draw.near(7, wild), draw.near(200, wild) - draw.below(2) * 100);
+                int by = near(-200, 200);
+                same("wind", () -> hall.wind(a, by), () -> model.wind(a, by));
                 break;
             case 8:
-                hall.addWinder(draw.near(15, wild), draw.near(15, wild), draw.near(100, wild));
+                int strength = near(1, 100);
+                same("addWinder", () -> hall.addWinder(x, y, strength), () -> model.addWinder(x, y, strength));
                 break;
             case 9:
-                hall.call(draw.near(2, wild), draw.near(7, wild));
+                same("call", () -> hall.call(small, a), () -> model.call(small, a));
                 break;
             case 10:
-                Halls.tape(hall, dance(draw));
-                hall.learn(draw.near(7, wild));
-                break;
-            case 11:
-                hall.trim(draw.near(40, wild));
-                break;
-            case 12:
-                hall.feed(draw.below(1 << 30), draw.near(9, wild), 0, -draw.below(99), 7);
+                fill(dance);
                 break;
             default:
-                hall.pass(draw.near(12, wild));
+                int beats = near(1, below(9) == 0 ? 200 : 12);
+                same("pass", () -> hall.pass(beats), () -> model.pass(beats));
                 break;
         }
     }
 
-    private static void ask(WaltzHall hall, Draw draw) {
-        int a = draw.near(9, true);
-        int b = draw.near(12, true);
-        int c = draw.near(200, true);
-        switch (draw.below(10)) {
+    /** Feeds and trims the tape, and takes it as a dance, or not yet. */
+    private void fill(int dance) {
+        int[] n = new int[5];
+        for (int i = 0; i < 20; i++) {
+            int sign = "ffffbblrrttuusw".charAt(below(15)) + (below(150) == 0 ? 1 : 0);
+            n[i / 4] = n[i / 4] << 8 | sign;
+        }
+        same("feed", () -> hall.feed(n[0], n[1], n[2], n[3], n[4]), () -> model.feed(n));
+        int length = near(0, below(2) == 0 ? 20 : 26);
+        same("trim", () -> hall.trim(length), () -> model.trim(length));
+        if (below(4) > 0) {
+            same("learn", () -> hall.learn(dance), () -> model.learn(dance));
+        }
+    }
+
+    private void ask() {
+        int a = someDancer();
+        int b = someDancer();
+        int beats = near(1, 200);
+        int small = near(0, 4);
+        int dance = near(0, 7);
+        int many = near(0, 11);
+        switch (below(10)) {
             case 0:
-                hall.figure(a, b);
+                same("figure", () -> hall.figure(dance, many), () -> model.figure(dance, many));
                 break;
             case 1:
-                hall.drift(a, draw.near(3, true));
+                same("drift", () -> hall.drift(dance, small), () -> model.drift(dance, small));
                 break;
             case 2:
-                hall.dancer(a, b);
+                same("dancer", () -> hall.dancer(a, many), () -> model.dancer(a, many));
                 break;
             case 3:
-                hall.at(draw.near(15, true), draw.near(15, true));
+                int x = near(0, 15);
+                same("at", () -> hall.at(x, many), () -> model.at(x, many));
                 break;
             case 4:
-                hall.winder(draw.near(2, true), draw.near(5, true));
+                same("winder", () -> hall.winder(small, many), () -> model.winder(small, many));
                 break;
             case 5:
-                hall.count(b);
+                same("count", () -> hall.count(many), () -> model.count(many));
                 break;
             case 6:
-                hall.foresee(a, c, draw.near(4, true));
+                same("foresee", () -> hall.foresee(a, beats, small), () -> model.foresee(a, beats, small));
                 break;
             case 7:
-                hall.firstToStop(c);
+                same("firstToStop", () -> hall.firstToStop(beats), () -> model.firstToStop(beats));
                 break;
             case 8:
-                hall.meet(a, b, c);
+                same("meet", () -> hall.meet(a, b, beats), () -> model.meet(a, b, beats));
                 break;
             default:
-                Check.isTrue("a tension of 0 to 200", hall.tension() >= 0 && hall.tension() <= 200);
+                same("tension", hall::tension, model::tension);
                 break;
         }
     }
 
-    private static void playWild(int seed) {
-        WaltzHall hall = new WaltzHall();
-        Draw draw = new Draw(seed);
-        for (int i = 0; i < CALLS; i++) {
-            long before = hall.digest();
-            if (call(hall, draw, true)) {
-                Check.same("digest behind a refused call", hall.digest(), before);
-            }
-            before = hall.digest();
-            try {
-                ask(hall, draw);
-            } catch (IllegalArgumentException | IndexOutOfBoundsException e) {
-                Check.isTrue("thrown by the class itself: " + e, Check.isThrownByTheClass(e) && isPlain(e));
-            }
-            Check.same("digest behind a question", hall.digest(), before);
+    private static WaltzHall busy(int seed) {
+        RandomTests run = new RandomTests(seed, false);
+        for (int i = 0; i < 200 && run.calls < 200; i++) {
+            run.change();
         }
+        return run.hall;
     }
 
-    private static void inOrder(WaltzHall hall) {
-        int dancers = hall.count(1);
-        Check.same("digest()", hall.digest(), AheadTests.told(hall));
-        for (int i = 0; i < dancers; i++) {
-            Check.same("at", hall.at(hall.dancer(i, Halls.X), hall.dancer(i, Halls.Y)), i);
-            int spring = hall.dancer(i, Halls.SPRING);
-            Check.isTrue("a spring of 0 to 200", spring >= 0 && spring <= 200);
-            int dizzy = hall.dancer(i, Halls.DIZZY);
-            Check.isTrue("dizzy for 0 to 2", dizzy >= 0 && dizzy <= 2);
-            hall.figure(hall.dancer(i, Halls.DANCE), hall.dancer(i, Halls.PLACE));
-            int partner = hall.dancer(i, Halls.PARTNER);
-            if (partner >= 0) {
-                Halls.tells(hall, partner, Halls.PARTNER, i);
-                Halls.tells(hall, partner, Halls.FOLLOWS, 1 - hall.dancer(i, Halls.FOLLOWS));
-                Check.same("a couple stays beside each other", hall.meet(i, partner, 1), 0);
-            }
-        }
-    }
-
-    private static WaltzHall replay(int seed, boolean looking) {
-        WaltzHall hall = new WaltzHall();
-        Draw draw = new Draw(seed);
-        for (int i = 0; i < CALLS; i++) {
-            call(hall, draw, false);
-            if (looking) {
-                hall.firstToStop(1 + i % 9);
-            }
-        }
-        return hall;
-    }
-
-    private static void looksAhead(int seed) {
-        // Looks in between must leave nothing behind that the later looks would see.
-        WaltzHall hall = replay(seed, true);
-        WaltzHall then = replay(seed, false);
+    private static void looksAhead(int seed, int beats) {
+        WaltzHall hall = busy(seed);
+        WaltzHall then = busy(seed);
         long before = hall.digest();
         Check.same("digest of the same calls", then.digest(), before);
-        int dancers = hall.count(1);
-        boolean[] spent = new boolean[dancers];
-        int[] bumps = new int[dancers];
-        for (int i = 0; i < dancers; i++) {
-            spent[i] = hall.dancer(i, Halls.SPRING) < hall.dancer(i, Halls.COST);
-            bumps[i] = hall.dancer(i, Halls.BUMPS);
+        int[] bumps = new int[then.count(1)];
+        for (int i = 0; i < bumps.length; i++) {
+            bumps[i] = then.dancer(i, Halls.BUMPS);
         }
-        int stops = -1;
-        int[] met = new int[dancers];
-        for (int beats = 0; beats <= 30; beats++) {
-            if (beats > 0) {
-                then.pass(1);
-                for (int i = dancers - 1, last = stops; i >= 0 && last < 0; i--) {
-                    boolean stopped = !spent[i] && then.dancer(i, Halls.SPRING) < then.dancer(i, Halls.COST);
-                    stops = stopped ? i : stops;
-                }
-                Check.same("firstToStop(" + beats + ")", hall.firstToStop(beats), stops);
-                foreseesAll(hall, then, beats, bumps);
-            }
-            for (int i = 1; i < dancers; i++) {
-                met[i] = met[i] == 0 && beside(then, i) ? beats + 1 : met[i];
-                if (beats > 0) {
-                    Check.same("meet(0, " + i + ", " + beats + ")", hall.meet(0, i, beats), met[i] - 1);
-                }
-            }
-        }
-        Check.same("digest behind looking ahead", hall.digest(), before);
-    }
-
-    private static boolean beside(WaltzHall hall, int other) {
-        int dx = hall.dancer(0, Halls.X) - hall.dancer(other, Halls.X);
-        int dy = hall.dancer(0, Halls.Y) - hall.dancer(other, Halls.Y);
-        return dx * dx + dy * dy == 1;
-    }
-
-    private static void foreseesAll(WaltzHall hall, WaltzHall then, int beats, int[] bumps) {
+        then.pass(beats);
         for (int i = 0; i < bumps.length; i++) {
             for (int what = 0; what < 4; what++) {
                 Check.same("foresee(" + i + ", " + beats + ", " + what + ")", hall.foresee(i, beats, what),
@@ -257,5 +222,6 @@ final class RandomTests {
             Check.same("foresee(" + i + ", " + beats + ", 4)", hall.foresee(i, beats, 4),
                     then.dancer(i, Halls.BUMPS) - bumps[i]);
         }
+        Check.same("digest behind looking ahead", hall.digest(), before);
     }
 }
