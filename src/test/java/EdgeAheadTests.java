@@ -48,7 +48,42 @@ final class EdgeAheadTests {
             Check.same("foresee(0, 3, 4)", hall.foresee(0, 3, 4), 1);
             Check.same("foresee(0, 200, 4)", hall.foresee(0, 200, 4), 66);
         });
+        Check.test("promise 19: with all that may be there it tells what passing brings", () -> {
+            for (int beats : new int[] {1, 2, 3, 9, 50, 199, 200}) {
+                WaltzHall hall = Edges.full();
+                WaltzHall then = Edges.full();
+                then.pass(beats);
+                for (int i = 0; i < 8; i++) {
+                    foreseesAs(hall, then, i, beats);
+                }
+                Check.same("digest", hall.digest(), Edges.full().digest());
+            }
+        });
+        Check.test("promise 19: one looked into the empty hall, and then all came", () -> {
+            WaltzHall hall = new WaltzHall();
+            Check.same("firstToStop", hall.firstToStop(200), -1);
+            hall.come(7, 7, 1, 1);
+            Check.same("foresee(0, 4, 0)", hall.foresee(0, 4, 0), 7);
+            Check.same("foresee(0, 1, 0)", hall.foresee(0, 1, 0), 8);
+            hall.come(8, 7, 0, 1);
+            Check.same("foresee(0, 1, 4)", hall.foresee(0, 1, 4), 1);
+            hall.pair(1, 0);
+            Check.same("foresee(0, 1, 1)", hall.foresee(0, 1, 1), 6);
+            hall.addWinder(7, 6, 50);
+            hall.call(0, 0);
+            Check.same("foresee(0, 1, 3)", hall.foresee(0, 1, 3), 149);
+            hall.part(0);
+            Check.same("foresee(0, 1, 4)", hall.foresee(0, 1, 4), 1);
+        });
         Check.test("promise 19: nothing is changed, however far one looks", () -> looks(h -> h.foresee(4, 200, 4)));
+    }
+
+    private static void foreseesAs(WaltzHall hall, WaltzHall then, int dancer, int beats) {
+        int[] kinds = {Halls.X, Halls.Y, Halls.FACE, Halls.SPRING, Halls.BUMPS};
+        for (int what = 0; what < 5; what++) {
+            Check.same("foresee(" + dancer + ", " + beats + ", " + what + ")", hall.foresee(dancer, beats, what),
+                    then.dancer(dancer, kinds[what]));
+        }
     }
 
     /** A hall that looked ahead and one that did not go on alike. */
@@ -220,11 +255,7 @@ final class EdgeAheadTests {
         Check.test("promise 23: an empty hall and a full one", () -> {
             WaltzHall empty = new WaltzHall();
             Check.same("digest()", empty.digest(), AheadTests.told(empty));
-            WaltzHall full = Edges.crowd();
-            for (int i = 0; i < 3; i++) {
-                full.addWinder(i, i, 100 - i);
-                full.call(i, 7 - i);
-            }
+            WaltzHall full = Edges.full();
             full.pass(9);
             Check.same("digest()", full.digest(), AheadTests.told(full));
         });

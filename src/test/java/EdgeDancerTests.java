@@ -75,6 +75,14 @@ final class EdgeDancerTests {
             Check.same("dance(2, 0)", hall.dance(2, 0), 7);
             Edges.index(Edges::busy, h -> h.dance(2, -1), h -> h.dance(2, 8), h -> h.dance(4, Integer.MAX_VALUE));
         });
+        Check.test("promise 8: each of the eight dances is chosen, told, and the one before then", () -> {
+            WaltzHall hall = Edges.busy();
+            for (int dance = 0; dance < 8; dance++) {
+                Check.same("dance(2, " + dance + ")", hall.dance(2, dance), Math.max(0, dance - 1));
+                Halls.tells(hall, 2, Halls.DANCE, dance);
+            }
+            Check.same("dance(2, 0)", hall.dance(2, 0), 7);
+        });
         Check.test("promise 8: the first dancer and the last one, and none beside them", () -> {
             WaltzHall hall = Edges.busy();
             Check.same("dance(0, 3)", hall.dance(0, 3), 0);

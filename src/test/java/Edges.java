@@ -92,6 +92,25 @@ final class Edges {
         return hall;
     }
 
+    /** All that may be there: eight dancers as four couples, of all dances, and three winders with rounds of eight. */
+    static WaltzHall full() {
+        WaltzHall hall = new WaltzHall();
+        for (int i = 0; i < 8; i++) {
+            hall.come(3 * (i / 2) + i % 2, 7, i % 4, 1 + i);
+            hall.dance(i, 7 - i);
+        }
+        for (int i = 0; i < 8; i += 2) {
+            hall.pair(i, i + 1);
+        }
+        for (int winder = 0; winder < 3; winder++) {
+            hall.addWinder(5 * winder, 15, 30 * winder + 1);
+            for (int i = 0; i < 8; i++) {
+                hall.call(winder, (3 * i + winder) % 8);
+            }
+        }
+        return hall;
+    }
+
     /** A row of letters of any length up to the tape's 40, on an empty tape. */
     static void fill(WaltzHall hall, String text) {
         int[] n = new int[TAPE / 4];
