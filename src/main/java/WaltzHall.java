@@ -142,7 +142,7 @@ public final class WaltzHall {
         leading.partner = following;
         following.partner = leading;
         following.follows = true;
-        return now.sumOf(TOLD_FOLLOWS);
+        return now.sumOfTold(TOLD_FOLLOWS);
     }
 
     public int part(int dancer) throws IndexOutOfBoundsException, IllegalStateException {
@@ -226,7 +226,7 @@ public final class WaltzHall {
 
     public int count(int what) throws IndexOutOfBoundsException {
         needKind(what, COUNT_KINDS);
-        return now.tell(what);
+        return now.countOf(what);
     }
 
     // ---- looking ahead
@@ -236,7 +236,7 @@ public final class WaltzHall {
         Dancer asked = neededDancer(dancer);
         needKind(what, FORESEEN_KINDS);
         needBeats(beats);
-        ahead.becomeLike(now);
+        ahead.startLike(now);
         for (int i = 0; i < beats; i++) {
             ahead.playBeat();
         }
@@ -249,10 +249,10 @@ public final class WaltzHall {
 
     public int firstToStop(int beats) throws IllegalArgumentException {
         needBeats(beats);
-        ahead.becomeLike(now);
+        ahead.startLike(now);
         for (int i = 0; i < beats; i++) {
             ahead.playBeat();
-            int stopped = ahead.firstSpentUnlike(now);
+            int stopped = ahead.firstNewlySpentSince(now);
             if (stopped >= 0) {
                 return stopped;
             }
@@ -267,7 +267,7 @@ public final class WaltzHall {
             throw new IllegalArgumentException("nobody meets itself");
         }
         needBeats(beats);
-        ahead.becomeLike(now);
+        ahead.startLike(now);
         if (ahead.areBeside(a, b)) {
             return 0;
         }
@@ -282,13 +282,13 @@ public final class WaltzHall {
 
     public double tension() {
         int dancers = now.dancers.size();
-        return dancers == 0 ? 0.0 : (double) now.sumOf(TOLD_SPRING) / dancers;
+        return dancers == 0 ? 0.0 : (double) now.sumOfTold(TOLD_SPRING) / dancers;
     }
 
     public long digest() {
         long d = DIGEST_START;
         for (int what = 0; what < COUNT_KINDS; what++) {
-            d = d * DIGEST_FACTOR + now.tell(what);
+            d = d * DIGEST_FACTOR + now.countOf(what);
         }
         for (int i = 0; i < dances.size(); i++) {
             d = dances.get(i).digestFrom(d);
@@ -369,11 +369,10 @@ public final class WaltzHall {
     }
 
     private static boolean isFigure(int figure) {
-        return isWalk(figure) || turnOf(figure) != 0 || figure == SWAP || figure == REST;
+        return isWalk(figure) || quartersTurnedBy(figure) != 0 || figure == SWAP || figure == REST;
     }
 
-    /** By how many quarters clockwise the way of a walk lies from the face. */
-    private static int wayOf(int figure) {
+    private static int quartersToWayOf(int figure) {
         switch (figure) {
             case 'r':
                 return 1;
@@ -386,8 +385,7 @@ public final class WaltzHall {
         }
     }
 
-    /** By how many quarters clockwise a figure turns; 0 if it is no turn. */
-    private static int turnOf(int figure) {
+    private static int quartersTurnedBy(int figure) {
         return figure == 't' ? 1 : figure == 'u' ? -1 : 0;
     }
 
@@ -460,11 +458,11 @@ public final class WaltzHall {
             for (int place = 0; place < length; place++) {
                 int figure = figureAt(place);
                 if (isWalk(figure)) {
-                    int way = turned(face, wayOf(figure));
+                    int way = turned(face, quartersToWayOf(figure));
                     x += columnStep(way);
                     y += rowStep(way);
                 }
-                face = turned(face, turnOf(figure));
+                face = turned(face, quartersTurnedBy(figure));
             }
             switch (what) {
                 case 0:
@@ -518,7 +516,7 @@ public final class WaltzHall {
             this.dance = dance;
         }
 
-        /** Takes all over but the partner, who has to be one on the same floor. */
+        // The floor sets the partner, who has to be one of its own dancers.
         void becomeLike(Dancer original) {
             x = original.x;
             y = original.y;
@@ -645,7 +643,6 @@ public final class WaltzHall {
             }
         }
 
-        /** The number of the dancer; -1 if the round is empty. */
         int whoseTurn() {
             return turn >= 0 && turn < roundLength && turn < round.length ? round[turn] : -1;
         }
@@ -687,7 +684,6 @@ public final class WaltzHall {
         }
     }
 
-    /** Who is on the floor, at one beat. */
     private static final class Floor {
         final ArrayList<Dancer> dancers = new ArrayList<>();
         final ArrayList<Winder> winders = new ArrayList<>();
@@ -722,8 +718,8 @@ public final class WaltzHall {
             }
         }
 
-        /** Nobody ever leaves, so the objects made once serve for every look ahead. */
-        void becomeLike(Floor original) {
+        // Nobody ever leaves, so the objects made once serve for every look ahead.
+        void startLike(Floor original) {
             beat = original.beat;
             for (int i = dancers.size(); i < original.dancers.size(); i++) {
                 dancers.add(new Dancer(i, original.dancers.get(i).dance));
@@ -741,7 +737,6 @@ public final class WaltzHall {
             }
         }
 
-        /** Answers how many bumps dancers had. */
         int playBeat() {
             int bumps = 0;
             for (int i = 0; i < dancers.size(); i++) {
@@ -780,9 +775,9 @@ public final class WaltzHall {
                 // The goals of both are never one tile, so nobody is in the way twice.
                 return bump(leader) + bump(follower) + bump(inLeadersWay) + bump(inFollowersWay);
             }
-            leader.goAndTurn(turnOf(figure));
+            leader.goAndTurn(quartersTurnedBy(figure));
             if (follower != null) {
-                follower.goAndTurn(turnOf(figure));
+                follower.goAndTurn(quartersTurnedBy(figure));
             }
             return 0;
         }
@@ -791,24 +786,24 @@ public final class WaltzHall {
             Dancer follower = leader.partner;
             leader.aimAt(leader.x, leader.y);
             if (isWalk(figure)) {
-                leader.aimFrom(leader.x, leader.y, turned(leader.face, wayOf(figure)));
+                leader.aimFrom(leader.x, leader.y, turned(leader.face, quartersToWayOf(figure)));
             }
             if (follower == null) {
                 return;
             }
             follower.aimAt(follower.x, follower.y);
             if (isWalk(figure)) {
-                follower.aimFrom(follower.x, follower.y, turned(leader.face, wayOf(figure)));
+                follower.aimFrom(follower.x, follower.y, turned(leader.face, quartersToWayOf(figure)));
             } else if (figure == SWAP) {
                 leader.aimAt(follower.x, follower.y);
                 follower.aimAt(leader.x, leader.y);
-            } else if (turnOf(figure) != 0) {
-                int side = turned(leader.directionTo(follower), turnOf(figure));
+            } else if (quartersTurnedBy(figure) != 0) {
+                int side = turned(leader.directionTo(follower), quartersTurnedBy(figure));
                 follower.aimFrom(leader.x, leader.y, side);
             }
         }
 
-        /** The partner is no hindrance: it goes, too, or changes places. */
+        // The partner is no hindrance: it goes, too, or changes places.
         private Dancer whoIsInTheWayOf(Dancer goer) {
             Dancer there = whoIsAt(goer.goalX, goer.goalY);
             return there == goer || there == goer.partner ? null : there;
@@ -822,8 +817,7 @@ public final class WaltzHall {
             return 1;
         }
 
-        /** Answers the first one who has too little spring here and had enough on the earlier floor. */
-        int firstSpentUnlike(Floor earlier) {
+        int firstNewlySpentSince(Floor earlier) {
             for (int i = 0; i < dancers.size() && i < earlier.dancers.size(); i++) {
                 if (dancers.get(i).isSpent() && !earlier.dancers.get(i).isSpent()) {
                     return i;
@@ -832,8 +826,7 @@ public final class WaltzHall {
             return -1;
         }
 
-        /** The sum of what the dancers tell. */
-        int sumOf(int what) {
+        int sumOfTold(int what) {
             int sum = 0;
             for (int i = 0; i < dancers.size(); i++) {
                 sum += dancers.get(i).tell(what);
@@ -857,24 +850,24 @@ public final class WaltzHall {
             return spent;
         }
 
-        int tell(int what) {
+        int countOf(int what) {
             switch (what) {
                 case 0:
                     return beat;
                 case 1:
                     return dancers.size();
                 case 2:
-                    return sumOf(TOLD_FOLLOWS);
+                    return sumOfTold(TOLD_FOLLOWS);
                 case 3:
                     return winders.size();
                 case 4:
                     return dizzyOnes();
                 case 5:
-                    return sumOf(TOLD_SPRING);
+                    return sumOfTold(TOLD_SPRING);
                 case 6:
-                    return sumOf(TOLD_FIGURES);
+                    return sumOfTold(TOLD_FIGURES);
                 case 7:
-                    return sumOf(TOLD_BUMPS);
+                    return sumOfTold(TOLD_BUMPS);
                 default:
                     return spentOnes();
             }

@@ -11,6 +11,8 @@ public final class AllTests {
         BeatTests.run();
         AheadTests.run();
         FaceTests.run();
+        LanguageTests.run();
+        ReadmeTests.run();
         EdgeTermsTests.run();
         EdgeDanceTests.run();
         EdgeDancerTests.run();
